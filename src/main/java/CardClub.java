@@ -1300,7 +1300,7 @@ public final class CardClub {
      * bests of smaller ones.
      */
     private static final class Matching {
-        private static final long IMPOSSIBLE = Long.MAX_VALUE;
+        private static final long IMPOSSIBLE = 1L << 62;
         // One pair more weighs more than any unhappiness, and that more than any sum of OWED.
         private static final long PER_PAIR = 1L << 40;
         private static final long PER_UNHAPPY = 1L << 20;
@@ -1798,7 +1798,7 @@ public final class CardClub {
         private static final int MOST_STAMPS = 50;
         private static final int BITS = 6;
         private static final int ALL_BITS = BITS * STAMP_KINDS;
-        private static final long IMPOSSIBLE = Long.MAX_VALUE;
+        private static final long IMPOSSIBLE = 1L << 62;
         // The least sum that pays is less than the dearest price and the dearest stamp together.
         private static final int SUMS = 1400;
 

@@ -1102,6 +1102,9 @@ public final class PromisesTest {
         x.close(0);
         Due.is("ring 1", NONE, x.drop(1, 0));
         Due.is("ring -1", NONE, x.drop(-1, 0));
+        Due.is("an open offer", 3, x.offer(3, 0, 0));
+        Due.is("ring -1, of one with an open offer", NONE, x.drop(-1, 3));
+        Due.is("it is open still", 0, x.offers(3, 3));
         Due.is("not of it", NONE, x.drop(0, 3));
         Due.is("no member", NONE, x.drop(0, 4));
         Due.is("-1", NONE, x.drop(0, -1));
