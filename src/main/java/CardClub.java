@@ -1799,7 +1799,7 @@ public final class CardClub {
         private static final int BITS = 6;
         private static final int ALL_BITS = BITS * STAMP_KINDS;
         private static final long IMPOSSIBLE = 1L << 62;
-        // The least sum that pays is less than the dearest price and the dearest stamp together.
+        // More than the greatest price (900) and the dearest stamp (500), less one, come to.
         private static final int SUMS = 1400;
 
         private final int[] value = new int[STAMP_KINDS];
@@ -1838,7 +1838,8 @@ public final class CardClub {
 
         /** Pays a price from the drawer: what the stamps come to; NONE: there is not as much. */
         int payAtLeast(int coins) {
-            int last = Math.min(coins + MOST_VALUE - 1, SUMS - 1);
+            // The least sum that pays has no stamp too many: it is less than the price and one stamp more.
+            int last = Math.min(coins + dearestStamp() - 1, SUMS - 1);
             findBestWays(last);
             for (int sum = Math.max(coins, 0); sum <= last; sum++) {
                 if (best[sum] != IMPOSSIBLE) {
@@ -1849,8 +1850,18 @@ public final class CardClub {
             return NONE;
         }
 
+        private int dearestStamp() {
+            int dearest = 0;
+            for (int k = 0; k < STAMP_KINDS; k++) {
+                if (many[k] > 0) {
+                    dearest = Math.max(dearest, value[k]);
+                }
+            }
+            return dearest;
+        }
+
         private void findBestWays(int last) {
-            for (int sum = 0; sum < SUMS; sum++) {
+            for (int sum = 1; sum <= last && sum < SUMS; sum++) {
                 best[sum] = IMPOSSIBLE;
             }
             best[0] = 0;

@@ -249,7 +249,7 @@ public final class AgainstNaiveTest {
         int unit = roll(1, 10);
         for (int k = 0; k < kinds; k++) {
             int value = roll(0, 1) == 0 ? unit * roll(1, 12) : roll(1, 500);
-            int many = kinds > 5 ? roll(0, 4) : roll(0, 9);
+            int many = kinds > 5 ? roll(0, 4) : kinds > 3 ? roll(0, 9) : roll(0, 50);
             same("stamps " + k, x.stamps(k, value, many), y.stamps(k, value, many));
         }
         for (int i = 0; i < 6; i++) {
@@ -263,7 +263,8 @@ public final class AgainstNaiveTest {
     }
 
     private void playGive() {
-        int members = roll(2, 8);
+        boolean all = roll(0, 9) == 0;
+        int members = all ? 8 : roll(2, 8);
         for (int m = 0; m < members; m++) {
             int land = roll(0, 2);
             int family = roll(0, 5) == 0 ? roll(0, 2) : -1;
@@ -274,7 +275,7 @@ public final class AgainstNaiveTest {
         }
         tellRules(one("slack 1", "slack 2;strict 1", "slack 20;strict 0", "slack 5", "under 2", "under 1;more 1;slack 4"));
         for (int round = 0; round < 6; round++) {
-            for (int i = 0; i < roll(1, 6) && y.listed.size() < 5; i++) {
+            for (int i = 0; i < (all ? 20 : roll(1, 6)) && y.listed.size() < (all ? 8 : 5); i++) {
                 int m = number(members);
                 same("list " + m, x.list(m), y.list(m));
             }
