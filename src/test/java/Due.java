@@ -1,12 +1,39 @@
+import java.io.IOException;
+import java.nio.file.Files;
+import java.nio.file.Path;
+
 /** Compares answers with the ones that are due, and puts texts on the tape. */
 final class Due {
+    private static final Path DOCUMENT = Path.of("../shared/DOC.md");
+
     private static int wrong = 0;
     private static String part = "";
+    private static String document = null;
 
     private Due() { }
 
     static void part(String name) {
         part = name;
+    }
+
+    /** Begins the test of one sentence, told in the document's own words: they must stand in it. */
+    static void sentence(String words) {
+        part = words;
+        if (document == null) {
+            document = readDocument();
+        }
+        if (!document.isEmpty() && !document.contains(words)) {
+            wrong("these words don't stand in " + DOCUMENT);
+        }
+    }
+
+    private static String readDocument() {
+        try {
+            return Files.readString(DOCUMENT).replaceAll("\\s+", " ");
+        } catch (IOException e) {
+            System.out.println(DOCUMENT + " can't be read: the sentences quoted are not looked up");
+            return "";
+        }
     }
 
     static void is(String call, long want, long got) {
