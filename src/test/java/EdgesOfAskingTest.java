@@ -185,6 +185,8 @@ public final class EdgesOfAskingTest {
         Due.is("OWED 0, slack 1", 1, x.may(0, 1));
         Due.is("to 1", 1, x.card(x.ask(0), 1));
         Due.is("OWED -1, slack 1", 0, x.may(2, 1));
+        Due.rules(x, "slack 0");
+        Due.is("OWED -1, slack 0", 0, x.may(2, 1));
         Due.rules(x, "slack 2");
         Due.is("OWED -1, slack 2", 1, x.may(2, 1));
         x.arrive(0, 0);
@@ -266,13 +268,14 @@ public final class EdgesOfAskingTest {
         sentTo(x, "day 3", 5, 3);
         sentTo(x, "day 4, the least", 5, 1);
         sentTo(x, "day 4", 5, 2);
-        x = Scenes.club(3);
-        x.ask(0);
+        x = Scenes.club(4);
+        Scenes.swap(x, 0, 1);
         x.arrive(0, 0);
-        x.ask(1);
         x.arrive(1, 0);
         // 0 to 1 and 1 to 0: all are OWED 0, and day 0 is behind never.
-        sentTo(x, "never is ahead of day 0", 0, 2);
+        sentTo(x, "never is ahead of day 0", 3, 2);
+        sentTo(x, "both on day 0, the least", 3, 0);
+        sentTo(x, "day 0", 3, 1);
     }
 
     private static void thenTheLeast() {
@@ -443,6 +446,9 @@ public final class EdgesOfAskingTest {
         CardClub x = Scenes.club(1);
         Due.is("nobody else", -3, x.ask(0));
         Due.is("no member 1", NONE, x.ask(1));
+        Due.is("no member 2", NONE, x.ask(2));
+        Due.is("no member 39", NONE, x.ask(39));
+        Due.is("no member 40", NONE, x.ask(40));
         Due.is("no member -1", NONE, x.ask(-1));
         x.member(0, 0, NONE);
         Due.rules(x, "under 1");
@@ -467,6 +473,9 @@ public final class EdgesOfAskingTest {
         Due.is("he may not", 1, x.may(0, 2));
         Due.is("he may not, and 1 had one", 0, x.may(0, 1));
         Due.is("no b", NONE, x.may(0, 3));
+        Due.is("b 39", NONE, x.may(0, 39));
+        Due.is("a 39", NONE, x.may(39, 0));
+        Due.is("b 40", NONE, x.may(0, 40));
         Due.is("no a", NONE, x.may(3, 0));
         Due.is("b -1", NONE, x.may(0, -1));
         Due.is("a -1", NONE, x.may(-1, 0));
@@ -480,6 +489,8 @@ public final class EdgesOfAskingTest {
         Due.sentence("A MEMBER comes on the list of ALL ASK: how many it has; NONE: no such MEMBER, on it already, or 8.");
         CardClub x = Scenes.club(9);
         Due.is("no member 9", NONE, x.list(9));
+        Due.is("no member 10", NONE, x.list(10));
+        Due.is("no member 39", NONE, x.list(39));
         Due.is("no member -1", NONE, x.list(-1));
         Due.is("none on it", 0, x.count(9));
         for (int m = 0; m < 8; m++) {
@@ -499,7 +510,17 @@ public final class EdgesOfAskingTest {
     private static void give() {
         Due.sentence("ALL ASK, and the list is empty then: how many CARDS are SENT; NONE, and nothing happens,"
                 + " if there would not be room for as many CARDS as the list has.");
-        CardClub x = Scenes.posted(298);
+        CardClub x = Scenes.club(3);
+        x.list(0);
+        x.list(1);
+        Due.is("two", 2, x.give());
+        x.leave(2);
+        x.list(1);
+        x.list(0);
+        Due.is("nobody may get from them any more", 0, x.give());
+        Due.is("no more cards", 2, x.count(3));
+        Due.is("the list is empty then", 0, x.count(9));
+        x = Scenes.posted(298);
         Due.is("an empty list", 0, x.give());
         x.list(38);
         x.list(39);

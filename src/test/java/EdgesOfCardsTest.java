@@ -451,6 +451,9 @@ public final class EdgesOfCardsTest {
         x.ask(0);
         x.ask(0);
         Due.no("card 2", x.arrive(2, 0));
+        Due.no("card 3", x.arrive(3, 0));
+        Due.no("card 299", x.arrive(299, 0));
+        Due.no("card 300", x.arrive(300, 0));
         Due.no("card -1", x.arrive(-1, 0));
         Due.no("the greatest number", x.arrive(Integer.MAX_VALUE, 0));
         Due.no("day 1", x.arrive(0, 1));
@@ -475,6 +478,8 @@ public final class EdgesOfCardsTest {
         x.ask(0);
         Due.no("none told", x.back(0));
         Due.no("card 2", x.back(2));
+        Due.no("card 299", x.back(299));
+        Due.no("card 300", x.back(300));
         Due.no("card -1", x.back(-1));
         x.arrive(0, 0);
         Due.no("none told of the other", x.back(1));
@@ -494,12 +499,17 @@ public final class EdgesOfCardsTest {
     }
 
     private static void card() {
-        Due.sentence("6: the DAY on which it was CANCELLED (NONE). NONE without it, or for another what.");
+        Due.sentence("Of a CARD what 0: from whom, 1: to whom, 2: the DAY of SENDING, 3: BOUND, 4: the DAY on which it ARRIVED"
+                + " as KNOWN NOW (NONE), 5: the RING as CLOSED it is of (0, 1, ..; NONE), 6: the DAY on which it was CANCELLED"
+                + " (NONE). NONE without it, or for another what.");
         CardClub x = sentOnDay100();
         int[] want = {0, 1, 100, 10, NONE, NONE, NONE};
         for (int what = 0; what < want.length; what++) {
             Due.is("what " + what, want[what], x.card(0, what));
             Due.is("card 1, what " + what, NONE, x.card(1, what));
+            Due.is("card 2, what " + what, NONE, x.card(2, what));
+            Due.is("card 299, what " + what, NONE, x.card(299, what));
+            Due.is("card 300, what " + what, NONE, x.card(300, what));
             Due.is("card -1, what " + what, NONE, x.card(-1, what));
         }
         Due.is("what 7", NONE, x.card(0, 7));
@@ -523,10 +533,14 @@ public final class EdgesOfCardsTest {
     }
 
     private static void state() {
-        Due.sentence("NONE ahead of its SENDING, or without these.");
+        Due.sentence("A CARD on a DAY as KNOWN on a DAY: 0 UNDER WAY, 1 ARRIVED (not LATE), 2 LOST, 3 LATE, 4 CANCELLED;"
+                + " NONE ahead of its SENDING, or without these.");
         CardClub x = sentOnDay100();
         Due.is("ahead", NONE, x.state(0, 99, 100));
         Due.is("card 1", NONE, x.state(1, 100, 100));
+        Due.is("card 2", NONE, x.state(2, 100, 100));
+        Due.is("card 299", NONE, x.state(299, 100, 100));
+        Due.is("card 300", NONE, x.state(300, 100, 100));
         Due.is("card -1", NONE, x.state(-1, 100, 100));
         Due.is("day -1", NONE, x.state(0, -1, 100));
         Due.is("day 2000", NONE, x.state(0, 2000, 100));
@@ -538,12 +552,16 @@ public final class EdgesOfCardsTest {
     }
 
     private static void about() {
-        Due.sentence("10: LOST ones of his. NONE without him, or for another what.");
+        Due.sentence("Counts of a MEMBER what 0: GIVEN, 1: GOT, 2: COMING, 3: OUT, 4: CREDIT, 5: OWED (-1000 without him),"
+                + " 6: 1 if he MAY ASK, else 0, 7: LAND, 8: 1 if there, else 0, 9: the DAY on which he came, 10: LOST ones"
+                + " of his. NONE without him, or for another what.");
         CardClub x = sentOnDay100();
         int[] want = {0, 0, 0, 1, 0, 0, 1, 0, 1, 0, 0};
         for (int what = 0; what < want.length; what++) {
             aboutIs(x, 0, what, want[what]);
             aboutIs(x, 2, what, what == 5 ? -1000 : NONE);
+            aboutIs(x, 3, what, what == 5 ? -1000 : NONE);
+            aboutIs(x, 39, what, what == 5 ? -1000 : NONE);
             aboutIs(x, -1, what, what == 5 ? -1000 : NONE);
             aboutIs(x, 40, what, what == 5 ? -1000 : NONE);
         }
@@ -560,6 +578,12 @@ public final class EdgesOfCardsTest {
         aboutIs(x, 0, 0, 1);
         aboutIs(x, 0, 5, 1);
         aboutIs(x, 0, 8, 0);
+        x = sentOnDay100();
+        x.leave(1);
+        x.clock(110);
+        aboutIs(x, 0, 10, 0);
+        aboutIs(x, 0, 4, 1);
+        aboutIs(x, 0, 3, 0);
     }
 
     private static void album() {
@@ -582,11 +606,14 @@ public final class EdgesOfCardsTest {
         x.leave(0);
         Due.is("who left has it still", 1 << 15 | 1, x.album(0));
         Due.is("no member 3", NONE, x.album(3));
+        Due.is("no member 39", NONE, x.album(39));
+        Due.is("no member 40", NONE, x.album(40));
         Due.is("no member -1", NONE, x.album(-1));
     }
 
     private static void spanAnswers() {
-        Due.sentence("NONE without these, or (0, 1) without any.");
+        Due.sentence("SPAN between two LANDS (from the first to the second) what 0: least, 1: greatest, 2: of how many"
+                + " ARRIVALS. NONE without these, or (0, 1) without any.");
         CardClub x = sentOnDay100();
         spanIs(x, NONE, NONE, 0);
         x.arrive(0, 100);

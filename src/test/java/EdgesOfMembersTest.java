@@ -92,6 +92,7 @@ public final class EdgesOfMembersTest {
         wishIsMet(x, "near 9", 1, 0);
         wishIsMet(x, "near 0", 2, 1);
         wishIsMet(x, "far 1", 2, 0);
+        wishIsMet(x, "far 0", 2, 1);
         Due.is("0 is told", 10, x.far(0, 15, 0));
         wishIsMet(x, "near 0", 1, 1);
         wishIsMet(x, "far 1", 1, 0);
@@ -102,7 +103,17 @@ public final class EdgesOfMembersTest {
         Due.is("-1", NONE, x.far(0, 15, -1));
         Due.is("the greatest number", NONE, x.far(0, 15, GREATEST));
         Due.is("99 stays", 99, x.far(0, 15, 7));
-        Due.is("another pair", 10, x.far(14, 15, 7));
+        x = new CardClub();
+        for (int a = 0; a < 16; a++) {
+            for (int b = 0; b < a; b++) {
+                Due.is("from " + a + " to " + b, 10, x.far(a, b, 16 * a + b < 99 ? 16 * a + b : a + b));
+            }
+        }
+        for (int a = 0; a < 16; a++) {
+            for (int b = 0; b < a; b++) {
+                Due.is("from " + b + " to " + a, 16 * a + b < 99 ? 16 * a + b : a + b, x.far(b, a, 10));
+            }
+        }
     }
 
     private static void wishIsMet(CardClub x, String text, int by, int want) {
@@ -246,6 +257,9 @@ public final class EdgesOfMembersTest {
         Due.sentence("A MEMBER leaves: how many CARDS are CANCELLED; NONE, and nothing happens, without him there.");
         CardClub x = Scenes.club(4);
         Due.is("member 4", NONE, x.leave(4));
+        Due.is("member 5", NONE, x.leave(5));
+        Due.is("member 39", NONE, x.leave(39));
+        Due.is("member 40", NONE, x.leave(40));
         Due.is("member -1", NONE, x.leave(-1));
         Due.is("the greatest number", NONE, x.leave(GREATEST));
         Due.is("nothing happens", 4, x.count(2));

@@ -9,6 +9,7 @@ public final class EdgesOfRingsTest {
         unlikeMembers();
         wantedByTheNext();
         onlyOpen();
+        foundAnew();
         firstTwelve();
         mostOffers();
         fewestRings();
@@ -17,6 +18,7 @@ public final class EdgesOfRingsTest {
         noRingBehindAll();
         leastThatIsLeft();
         closed();
+        sentAnyway();
         dropUnderWay();
         dropCredit();
         othersStay();
@@ -116,6 +118,7 @@ public final class EdgesOfRingsTest {
         found(wants("4", "0", "1", "2", "3"), "five", "0 1 2 3 4");
         found(wants("5", "0", "1", "2", "3", "4"), "six");
         found(wants("5 4", "0", "1", "2", "3", "4"), "five of six", "0 1 2 3 4");
+        found(wants("5", "0 2", "1", "2 4", "3", "4 0"), "six round, but three twos", "0 5", "1 2", "3 4");
     }
 
     private static void unlikeMembers() {
@@ -177,6 +180,37 @@ public final class EdgesOfRingsTest {
         found(x, "his new one is open, but the others are not");
         x.offer(0, 0, 2);
         found(x, "both are new", "3 4");
+    }
+
+    private static void foundAnew() {
+        Due.sentence("THE RINGS found: how many.");
+        CardClub x = Scenes.family(2, 3);
+        for (int m = 2; m < 6; m++) {
+            x.member(0, 0, NONE);
+        }
+        x.offer(0, 0, 2);
+        x.offer(1, 1, 1);
+        found(x, "of one family");
+        x.away(0);
+        x.away(1);
+        x.offer(2, 0, 2);
+        x.offer(3, 1, 1);
+        x.offer(4, 2, 8);
+        x.offer(5, 3, 4);
+        found(x, "others in their places", "2 3", "4 5");
+        for (int o = 2; o < 6; o++) {
+            x.away(o);
+        }
+        x.offer(2, 0, 1 << 2);
+        x.offer(3, 1, 1 << 0 | 1 << 3);
+        x.offer(4, 2, 1 << 1);
+        x.offer(5, 3, 1 << 2);
+        found(x, "6 7 8 or 7 8 9", "6 7 8");
+        found(x, "and again", "6 7 8");
+        x.away(6);
+        found(x, "the other one", "7 8 9");
+        x.away(8);
+        found(x, "none");
     }
 
     private static void firstTwelve() {
@@ -275,6 +309,26 @@ public final class EdgesOfRingsTest {
         Due.is("from 2", 2, x.card(0, 0));
     }
 
+    private static void sentAnyway() {
+        Due.sentence("a CARD is SENT NOW from each one's MEMBER to the next one's (whatever MAY ASK and MAY GET say).");
+        CardClub x = Scenes.club(3);
+        Due.rules(x, "under 1; slack 0; strict 0");
+        Due.wish(x, 0, "not any");
+        Due.wish(x, 1, "not any");
+        x.clock(9);
+        for (int ring = 0; ring < 3; ring++) {
+            Due.is("may get", 0, x.may(0, 1));
+            Due.is("the first card of ring " + ring, 2 * ring, Scenes.swap(x, 0, 1));
+            Due.is("may ask", 0, x.about(0, 6));
+            Due.is("from", 0, x.card(2 * ring, 0));
+            Due.is("to", 1, x.card(2 * ring, 1));
+            Due.is("round from", 1, x.card(2 * ring + 1, 0));
+            Due.is("round to", 0, x.card(2 * ring + 1, 1));
+            Due.is("sent now", 9, x.card(2 * ring + 1, 2));
+        }
+        Due.is("OUT", 3, x.about(0, 3));
+    }
+
     private static void dropUnderWay() {
         Due.sentence("DROPPING OUT of a RING: the CARD of his OFFER there, if it is UNDER WAY, is CANCELLED");
         CardClub x = Scenes.club(2);
@@ -312,6 +366,13 @@ public final class EdgesOfRingsTest {
         x.drop(0, 0);
         Due.is("no credit for one that arrived", 0, x.about(1, 4));
         x = Scenes.ring(2, 2);
+        x.arrive(0, 0);
+        x.leave(1);
+        x.back(0);
+        // The card from 0 came to 1 ahead of his leaving, so it was not cancelled; now it is under way again.
+        Due.is("under way to one who left", 1, x.drop(0, 0));
+        Due.is("no credit, for he is not there", 0, x.about(1, 4));
+        x = Scenes.ring(2, 2);
         x.leave(0);
         Due.is("credit of 1: for the card to 0, and for the one from 0", 2, x.about(1, 4));
         Due.is("1 drops out, too", 0, x.drop(0, 1));
@@ -335,6 +396,9 @@ public final class EdgesOfRingsTest {
         Due.sentence("An OFFER: its number; NONE: there are 20, no such MEMBER there, or something is not as told (KIND k is bit k).");
         CardClub x = Scenes.club(2);
         Due.is("no member 2", NONE, x.offer(2, 0, 0));
+        Due.is("no member 3", NONE, x.offer(3, 0, 0));
+        Due.is("no member 39", NONE, x.offer(39, 0, 0));
+        Due.is("no member 40", NONE, x.offer(40, 0, 0));
         Due.is("no member -1", NONE, x.offer(-1, 0, 0));
         Due.is("kind 32", NONE, x.offer(0, 32, 0));
         Due.is("kind -1", NONE, x.offer(0, -1, 0));
@@ -362,6 +426,8 @@ public final class EdgesOfRingsTest {
         Due.yes("open", x.away(2));
         Due.no("taken away", x.away(2));
         Due.no("no offer 4", x.away(4));
+        Due.no("no offer 5", x.away(5));
+        Due.no("no offer 19", x.away(19));
         Due.no("no offer -1", x.away(-1));
         Due.no("the greatest number", x.away(Integer.MAX_VALUE));
         x.drop(0, 0);
@@ -391,6 +457,14 @@ public final class EdgesOfRingsTest {
         Due.is("found last", 2, x.ring(1, 0));
         found(x, "none now");
         Due.is("forgotten", NONE, x.ring(0, 0));
+        x = wants("1", "0", "3", "2", "5", "4");
+        found(x, "three", "0 1", "2 3", "4 5");
+        x.away(0);
+        x.away(2);
+        found(x, "one", "4 5");
+        Due.is("the second is forgotten", NONE, x.ring(1, 0));
+        Due.is("the third is forgotten", NONE, x.ring(2, 0));
+        Due.is("and can't be closed", NONE, x.close(2));
     }
 
     private static void close() {
@@ -473,7 +547,8 @@ public final class EdgesOfRingsTest {
     }
 
     private static void offers() {
-        Due.sentence("4: the RING as CLOSED (NONE). NONE without it, or for another what.");
+        Due.sentence("Of an OFFER what 0: the MEMBER, 1: KIND, 2: KINDS wanted, 3: 0 OPEN, 1 of a RING, 2 taken away,"
+                + " 4: the RING as CLOSED (NONE). NONE without it, or for another what.");
         CardClub x = Scenes.ring(2, 3);
         x.offer(2, 31, -2);
         int[][] want = {{0, 0, 2, 1, 0}, {1, 1, 1, 1, 0}, {2, 31, -2, 0, NONE}};
@@ -484,6 +559,8 @@ public final class EdgesOfRingsTest {
         }
         for (int what = 0; what < 5; what++) {
             Due.is("offer 3, what " + what, NONE, x.offers(3, what));
+            Due.is("offer 4, what " + what, NONE, x.offers(4, what));
+            Due.is("offer 19, what " + what, NONE, x.offers(19, what));
             Due.is("offer -1, what " + what, NONE, x.offers(-1, what));
             Due.is("offer 20, what " + what, NONE, x.offers(20, what));
         }

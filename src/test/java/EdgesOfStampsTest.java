@@ -29,6 +29,7 @@ public final class EdgesOfStampsTest {
         payAgain();
         paid();
         count();
+        countOfOthers();
         countOfStamps();
         Due.endOfTest();
     }
@@ -380,17 +381,21 @@ public final class EdgesOfStampsTest {
         told(x, "zone 0 1 1;zone", Due.fault(15, 0));
         Due.is("the tape is empty", 0, x.count(8));
         Due.is("those ahead stay", 1, x.count(7));
+        told(x, "zone 0 1 1;zone 2 1 1;zone 3 1 1;zone", Due.fault(37, 0));
+        told(x, "zone 0 1 2", 1);
+        x.far(0, 1, 30);
+        Due.is("nothing stays of those with a fault", -2, x.price(0, 1, 1, 0));
         Due.tape(x, "zone 0 1 3");
         Due.is("day -1", NONE, x.rates(-1));
         Due.is("day 2000", NONE, x.rates(2000));
         Due.is("the greatest number", NONE, x.rates(Integer.MAX_VALUE));
         Due.is("nothing happens", 10, x.count(8));
-        Due.is("nothing happens", 1, x.count(7));
+        Due.is("nothing happens", 2, x.count(7));
         Due.is("day 1999", 1, x.rates(1999));
         x.clock(500);
         told(x, "zone 0 1 4", 1);
         Due.is("from a day that is over", 4, x.price(0, 0, 1, 0));
-        for (int r = 3; r < 10; r++) {
+        for (int r = 4; r < 10; r++) {
             told(x, "zone 0 1 5", 1);
         }
         told(x, "zone 0 1 6", NONE);
@@ -452,6 +457,9 @@ public final class EdgesOfStampsTest {
         Due.is("a day ahead", -2, x.pay(0, 1));
         x.clock(5);
         Due.is("card 1", NONE, x.pay(1, 1));
+        Due.is("card 2", NONE, x.pay(2, 1));
+        Due.is("card 299", NONE, x.pay(299, 1));
+        Due.is("card 300", NONE, x.pay(300, 1));
         Due.is("card -1", NONE, x.pay(-1, 1));
         Due.is("grams 0", NONE, x.pay(0, 0));
         Due.is("grams 501", NONE, x.pay(0, 501));
@@ -504,6 +512,41 @@ public final class EdgesOfStampsTest {
     }
 
     private static void count() {
+        Due.sentence("What 0: NOW, 1: MEMBERS, 2: those there, 3: CARDS, 4: tellings and takings back, 5: OFFERS,"
+                + " 6: RINGS CLOSED, 7: RATES, 8: bytes of the TAPE, 9: MEMBERS on the list; 10 to 14: under, more, slack,"
+                + " lost, strict");
+        CardClub x = new CardClub();
+        int[] first = {0, 0, 0, 0, 0, 0, 0, 0, 0, 0, 5, 10, 3, 60, 2};
+        counts(x, "a new object", first);
+        for (int m = 0; m < 40; m++) {
+            x.member(0, 0, NONE);
+        }
+        Due.rules(x, "under 20;more 99;slack 20;lost 400;strict 0");
+        x.clock(1999);
+        for (int m = 1; m < 9; m++) {
+            x.list(m);
+        }
+        for (int r = 0; r < 10; r++) {
+            told(x, "zone 0 1 1", 1);
+        }
+        for (int ring = 0; ring < 10; ring++) {
+            Scenes.swap(x, 0, 1);
+        }
+        x.arrive(0, 1999);
+        x.back(0);
+        x.leave(39);
+        Due.tape(x, " ".repeat(200));
+        int[] last = {1999, 40, 39, 20, 2, 20, 10, 10, 200, 8, 20, 99, 20, 400, 0};
+        counts(x, "as much as there can be", last);
+    }
+
+    private static void counts(CardClub x, String why, int[] want) {
+        for (int what = 0; what < want.length; what++) {
+            Due.is(why + ", what " + what, want[what], x.count(what));
+        }
+    }
+
+    private static void countOfOthers() {
         Due.sentence("NONE for others.");
         CardClub x = new CardClub();
         int[] none = {Integer.MIN_VALUE, -20, -1, 15, 16, 19, 28, 29, 38, 39, 40, 1000, Integer.MAX_VALUE};

@@ -78,6 +78,15 @@ public final class EdgesOfWishesTest {
         Due.is("the greatest number", NONE, x.end(Integer.MAX_VALUE));
         Due.is("the least number", NONE, x.end(Integer.MIN_VALUE));
         Due.is("nothing happens", 13, x.count(8));
+        Due.is("in the middle of a word", 8, x.end(8));
+        Due.is("'any or l'", Due.fault(7, 0), x.wish(0));
+        Due.tape(x, "any or any");
+        x.end(9);
+        Due.is("'any or an'", Due.fault(7, 0), x.wish(0));
+        Due.tape(x, "any or land 123");
+        x.end(13);
+        Due.is("'any or land 1'", 2, x.wish(0));
+        Due.tape(x, "any or land 9");
         Due.is("the first three", 3, x.end(3));
         Due.is("not four any more", NONE, x.end(4));
         Due.is("'any'", 1, x.wish(0));
@@ -302,7 +311,11 @@ public final class EdgesOfWishesTest {
 
     private static void blanksAlone() {
         Due.sentence("A text of blanks alone is no WISH (what was told is gone).");
-        CardClub x = Scenes.club(2);
+        CardClub x = new CardClub();
+        x.member(0, 0, NONE);
+        x.member(7, 0, NONE);
+        told(x, " ", 0);
+        Due.is("none was told", 1, x.meets(0, 1));
         isMet(x, "not any", 0);
         told(x, " ", 0);
         Due.is("gone", 1, x.meets(0, 1));
@@ -468,6 +481,9 @@ public final class EdgesOfWishesTest {
         Due.is("that one stays", 0, x.meets(0, 1));
         Due.tape(x, "any");
         Due.is("no member 2", NONE, x.wish(2));
+        Due.is("no member 3", NONE, x.wish(3));
+        Due.is("no member 39", NONE, x.wish(39));
+        Due.is("no member 40", NONE, x.wish(40));
         Due.is("no member -1", NONE, x.wish(-1));
         Due.is("nothing happens", 3, x.count(8));
         Due.is("member 1", 1, x.wish(1));
@@ -489,6 +505,8 @@ public final class EdgesOfWishesTest {
         Due.is("both one", NONE, x.meets(0, 0));
         Due.is("both one, without a wish", NONE, x.meets(1, 1));
         Due.is("no b", NONE, x.meets(0, 2));
+        Due.is("no b", NONE, x.meets(0, 39));
+        Due.is("no a", NONE, x.meets(39, 0));
         Due.is("no a", NONE, x.meets(2, 0));
         Due.is("-1", NONE, x.meets(0, -1));
         Due.is("both -1", NONE, x.meets(-1, -1));

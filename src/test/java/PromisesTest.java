@@ -44,24 +44,6 @@ public final class PromisesTest {
         Due.endOfTest();
     }
 
-    private static CardClub club(int members) {
-        CardClub x = new CardClub();
-        for (int m = 0; m < members; m++) {
-            x.member(0, 0, NONE);
-        }
-        return x;
-    }
-
-    /** Members a and b send to one another by a ring, which is closed: the card from the one that offered first. */
-    private static int swap(CardClub x, int a, int b) {
-        x.offer(a, 0, 2);
-        x.offer(b, 1, 1);
-        int found = x.rings();
-        int closed = x.close(found - 1);
-        int cards = x.count(3);
-        return closed == NONE ? NONE : cards - 2;
-    }
-
     private static void newObject() {
         Due.part("1 new object");
         CardClub x = new CardClub();
@@ -139,7 +121,7 @@ public final class PromisesTest {
 
     private static void leave() {
         Due.part("5 leave");
-        CardClub x = club(4);
+        CardClub x = Scenes.club(4);
         Due.is("no member", NONE, x.leave(4));
         Due.is("-1", NONE, x.leave(-1));
         int a = x.ask(0);
@@ -163,7 +145,7 @@ public final class PromisesTest {
         Due.is("1 leaves with what arrived", 0, x.leave(1));
         Due.is("there", 0, x.count(2));
         Due.is("arrived stays", 1, x.state(a, 4, 4));
-        x = club(2);
+        x = Scenes.club(2);
         x.ask(0);
         x.clock(60);
         Due.is("a lost one is not cancelled", 0, x.leave(1));
@@ -172,7 +154,7 @@ public final class PromisesTest {
 
     private static void leaveWithRing() {
         Due.part("5 leave, of a ring");
-        CardClub x = club(3);
+        CardClub x = Scenes.club(3);
         x.offer(0, 0, 2);
         x.offer(1, 1, 4);
         x.offer(2, 2, 1);
@@ -198,7 +180,7 @@ public final class PromisesTest {
 
     private static void feedAndEnd() {
         Due.part("6 feed, 7 end");
-        CardClub x = club(1);
+        CardClub x = Scenes.club(1);
         Due.is("end of nothing", 0, x.end(0));
         Due.is("end 1 of nothing", NONE, x.end(1));
         for (int i = 1; i <= 10; i++) {
@@ -231,7 +213,7 @@ public final class PromisesTest {
 
     private static void wishFaults() {
         Due.part("8 wish");
-        CardClub x = club(2);
+        CardClub x = Scenes.club(2);
         wishIs(x, "land 3", 1);
         wishIs(x, "  land   015  ", 1);
         wishIs(x, "land 0 and tongue 15 or shared and far 0 or near 99 and old 999 or any", 7);
@@ -356,7 +338,7 @@ public final class PromisesTest {
 
     private static void unhappyCounts() {
         Due.part("UNHAPPY and strict");
-        CardClub x = club(2);
+        CardClub x = Scenes.club(2);
         Due.wish(x, 0, "land 1");
         Due.wish(x, 1, "land 1");
         Due.is("both are unhappy, strict 2", 1, x.may(0, 1));
@@ -425,7 +407,7 @@ public final class PromisesTest {
 
     private static void ask() {
         Due.part("11 ask");
-        CardClub x = club(3);
+        CardClub x = Scenes.club(3);
         Due.is("no member", NONE, x.ask(3));
         Due.is("-1", NONE, x.ask(-1));
         Due.is("first card", 0, x.ask(0));
@@ -441,7 +423,7 @@ public final class PromisesTest {
         Due.is("who left", -2, x.ask(0));
 
         Due.part("11 ask, more");
-        x = club(12);
+        x = Scenes.club(12);
         Due.rules(x, "under 1; more 2; slack 20");
         Due.is("1st", 0, x.ask(0));
         Due.is("2nd", -2, x.ask(0));
@@ -462,7 +444,7 @@ public final class PromisesTest {
 
     private static void askOrder() {
         Due.part("11 ask, order");
-        CardClub x = club(5);
+        CardClub x = Scenes.club(5);
         x.ask(4);
         x.arrive(0, 0);
         Due.is("4 has given", 1, x.about(4, 5));
@@ -483,12 +465,12 @@ public final class PromisesTest {
         Due.wish(x, 2, "");
         Due.is("2 never got", 2, x.card(x.ask(0), 1));
 
-        x = club(3);
+        x = Scenes.club(3);
         Due.rules(x, "slack 20");
         x.clock(1);
-        swap(x, 0, 2);
+        Scenes.swap(x, 0, 2);
         x.clock(2);
-        swap(x, 1, 2);
+        Scenes.swap(x, 1, 2);
         for (int c = 0; c < 4; c++) {
             x.arrive(c, 2);
         }
@@ -532,7 +514,7 @@ public final class PromisesTest {
         Due.rules(x, "slack 2");
         Due.is("OWED -1 and slack 2", 1, x.may(3, 2));
         x.leave(2);
-        x = club(3);
+        x = Scenes.club(3);
         x.offer(0, 0, 2);
         x.offer(1, 1, 1);
         x.rings();
@@ -544,7 +526,7 @@ public final class PromisesTest {
 
     private static void list() {
         Due.part("13 list");
-        CardClub x = club(10);
+        CardClub x = Scenes.club(10);
         Due.is("no member", NONE, x.list(10));
         Due.is("-1", NONE, x.list(-1));
         x.leave(0);
@@ -584,7 +566,7 @@ public final class PromisesTest {
 
     private static void giveOrder() {
         Due.part("14 give, order");
-        CardClub x = club(4);
+        CardClub x = Scenes.club(4);
         Due.rules(x, "slack 1");
         // 1 alone may get from 0: 2 and 3 got one from him. 0 comes last, but all are to send.
         Due.is("ask", 1, x.card(x.ask(0), 1));
@@ -599,7 +581,7 @@ public final class PromisesTest {
         Due.is("0 to 3", 3, x.card(3, 1));
         Due.is("in the order of the list", 1, x.card(2, 0));
 
-        x = club(6);
+        x = Scenes.club(6);
         Due.wish(x, 0, "land 5");
         x.far(0, 5, 1);
         x.member(5, 0, NONE);
@@ -609,7 +591,7 @@ public final class PromisesTest {
         Due.is("0 to the one who meets his wish", 6, x.card(0, 1));
         Due.is("1 to the least that doesn't wish", 2, x.card(1, 1));
 
-        x = club(4);
+        x = Scenes.club(4);
         x.ask(3);
         x.arrive(0, 0);
         // OWED: 3: 1, 0: -1, 1: 0, 2: 0.
@@ -619,13 +601,13 @@ public final class PromisesTest {
         Due.is("0 to 1", 1, x.card(1, 1));
         Due.is("1 to 3", 3, x.card(2, 1));
 
-        x = club(2);
+        x = Scenes.club(2);
         x.list(1);
         x.list(0);
         x.leave(0);
         Due.is("who left is left out and gets none", 0, x.give());
 
-        x = club(3);
+        x = Scenes.club(3);
         Due.rules(x, "slack 1");
         x.ask(0);
         x.ask(1);
@@ -638,7 +620,7 @@ public final class PromisesTest {
 
     private static void arriveAndBack() {
         Due.part("15 arrive, 16 back");
-        CardClub x = club(3);
+        CardClub x = Scenes.club(3);
         x.clock(5);
         x.ask(0);
         x.clock(10);
@@ -668,7 +650,7 @@ public final class PromisesTest {
 
     private static void tellingsFull() {
         Due.part("600 tellings");
-        CardClub x = club(2);
+        CardClub x = Scenes.club(2);
         x.ask(0);
         for (int i = 0; i < 300; i++) {
             Due.yes("arrive", x.arrive(0, 0));
@@ -676,7 +658,7 @@ public final class PromisesTest {
         }
         Due.no("601st", x.arrive(0, 0));
         Due.is("tellings", 600, x.count(4));
-        x = club(2);
+        x = Scenes.club(2);
         x.ask(0);
         for (int i = 0; i < 600; i++) {
             x.arrive(0, 0);
@@ -687,7 +669,7 @@ public final class PromisesTest {
 
     private static void card() {
         Due.part("17 card");
-        CardClub x = club(2);
+        CardClub x = Scenes.club(2);
         x.clock(3);
         x.ask(1);
         int[] want = {1, 0, 3, 60, NONE, NONE, NONE, NONE};
@@ -700,8 +682,8 @@ public final class PromisesTest {
         x.clock(4);
         x.leave(0);
         Due.is("cancelled", 4, x.card(0, 6));
-        x = club(2);
-        swap(x, 0, 1);
+        x = Scenes.club(2);
+        Scenes.swap(x, 0, 1);
         Due.is("ring", 0, x.card(0, 5));
         Due.is("ring", 0, x.card(1, 5));
         x.drop(0, 0);
@@ -710,7 +692,7 @@ public final class PromisesTest {
 
     private static void state() {
         Due.part("18 state");
-        CardClub x = club(4);
+        CardClub x = Scenes.club(4);
         Due.rules(x, "lost 10");
         x.clock(100);
         x.ask(0);
@@ -750,7 +732,7 @@ public final class PromisesTest {
         x.arrive(c, 155);
         Due.is("of one day the latest telling", 1, x.state(c, 159, 170));
 
-        x = club(3);
+        x = Scenes.club(3);
         x.clock(10);
         x.ask(0);
         x.clock(15);
@@ -794,7 +776,7 @@ public final class PromisesTest {
         Due.is("as it was sent", 50, x.card(c, 3));
 
         Due.part("BOUND, the last ten");
-        x = club(16);
+        x = Scenes.club(16);
         Due.rules(x, "under 20; slack 20; lost 400");
         for (int i = 0; i < 11; i++) {
             x.ask(0);
@@ -917,7 +899,7 @@ public final class PromisesTest {
 
     private static void offer() {
         Due.part("22 offer, 23 away, 28 offers");
-        CardClub x = club(2);
+        CardClub x = Scenes.club(2);
         Due.is("0", 0, x.offer(0, 31, -1));
         Due.is("1", 1, x.offer(1, 0, 0));
         Due.is("kind 32", NONE, x.offer(0, 32, 0));
@@ -978,7 +960,7 @@ public final class PromisesTest {
         Due.is("taken away", 0, x.rings());
         Due.is("none now", NONE, x.ring(0, 0));
 
-        x = club(6);
+        x = Scenes.club(6);
         for (int m = 0; m < 5; m++) {
             x.offer(m, m, 1 << (m + 4) % 5);
         }
@@ -986,13 +968,13 @@ public final class PromisesTest {
         for (int i = 0; i < 5; i++) {
             Due.is("each one's is wanted by the next", i, x.ring(0, i));
         }
-        x = club(6);
+        x = Scenes.club(6);
         for (int m = 0; m < 6; m++) {
             x.offer(m, m, 1 << (m + 5) % 6);
         }
         Due.is("six is too long", 0, x.rings());
 
-        x = club(14);
+        x = Scenes.club(14);
         for (int m = 0; m < 11; m++) {
             x.offer(m, 30, 0);
         }
@@ -1008,7 +990,7 @@ public final class PromisesTest {
     private static void ringsOrder() {
         Due.part("24 rings, order");
         // 0 with 1 is a ring, and 0 with 2, and 1 with 3: two rings have four offers.
-        CardClub x = club(4);
+        CardClub x = Scenes.club(4);
         x.offer(0, 0, 1 << 1 | 1 << 2);
         x.offer(1, 1, 1 << 0 | 1 << 3);
         x.offer(2, 2, 1 << 0);
@@ -1018,7 +1000,7 @@ public final class PromisesTest {
         Due.is("1 with", 3, x.ring(1, 1));
 
         // All want all: four make one ring rather than two.
-        x = club(4);
+        x = Scenes.club(4);
         for (int m = 0; m < 4; m++) {
             x.offer(m, m, -1);
         }
@@ -1045,7 +1027,7 @@ public final class PromisesTest {
         Due.is("five", 11, x.ring(2, 4));
 
         // An offer of no ring is behind all rings that it could begin: 0, 1, 2 of which only two can be.
-        x = club(3);
+        x = Scenes.club(3);
         x.offer(0, 0, 1 << 1);
         x.offer(1, 1, 1 << 0 | 1 << 2);
         x.offer(2, 2, 1 << 1);
@@ -1056,7 +1038,7 @@ public final class PromisesTest {
 
     private static void close() {
         Due.part("26 close");
-        CardClub x = club(3);
+        CardClub x = Scenes.club(3);
         Due.is("none found", NONE, x.close(0));
         x.offer(0, 0, 1 << 2);
         x.offer(1, 1, 1 << 0);
@@ -1079,7 +1061,7 @@ public final class PromisesTest {
         }
         Due.is("closed", 1, x.count(6));
         Due.is("none open", 0, x.rings());
-        swap(x, 0, 1);
+        Scenes.swap(x, 0, 1);
         Due.is("the next number", 1, x.card(3, 5));
         x.offer(0, 0, 2);
         x.offer(2, 1, 1);
@@ -1093,7 +1075,7 @@ public final class PromisesTest {
 
     private static void drop() {
         Due.part("27 drop");
-        CardClub x = club(4);
+        CardClub x = Scenes.club(4);
         Due.is("no ring", NONE, x.drop(0, 0));
         x.offer(0, 0, 1 << 2);
         x.offer(1, 1, 1 << 0);
@@ -1264,7 +1246,7 @@ public final class PromisesTest {
 
     private static void payOrder() {
         Due.part("32 pay, order");
-        CardClub x = club(2);
+        CardClub x = Scenes.club(2);
         x.ask(0);
         Due.rates(x, 0, "zone 0 1 60; zone 0 2 900");
         x.stamps(0, 10, 50);
@@ -1296,7 +1278,7 @@ public final class PromisesTest {
 
     private static void count() {
         Due.part("34 count");
-        CardClub x = club(3);
+        CardClub x = Scenes.club(3);
         x.leave(2);
         x.clock(7);
         x.ask(0);
@@ -1304,7 +1286,7 @@ public final class PromisesTest {
         x.back(0);
         x.list(1);
         x.list(0);
-        swap(x, 0, 1);
+        Scenes.swap(x, 0, 1);
         x.stamps(2, 77, 8);
         Due.rates(x, 0, "zone 0 1 1");
         x.feed(0, 0, 0, 0, 0);
@@ -1322,7 +1304,7 @@ public final class PromisesTest {
 
     private static void cardsFull() {
         Due.part("300 cards");
-        CardClub x = club(40);
+        CardClub x = Scenes.club(40);
         Due.rules(x, "under 20; more 1; slack 20");
         int sent = 0;
         for (int m = 0; m < 40 && sent < 299; m++) {
