@@ -131,7 +131,12 @@ public final class EdgesOfMembersTest {
         Due.is("land of the last", 7, x.about(39, 7));
         Due.is("nobody is 40", NONE, x.about(40, 7));
         Due.is("nobody is -1", NONE, x.about(-1, 7));
-        Due.is("the last leaves", 0, x.leave(39));
+        Due.is("a card from the last to the first", 39, x.card(Scenes.swap(x, 39, 0), 0));
+        Due.is("COMING of the last", 1, x.about(39, 2));
+        Due.is("OUT of the last", 1, x.about(39, 3));
+        x.arrive(1, 0);
+        Due.is("GOT of the last", 1, x.about(39, 1));
+        Due.is("the last leaves, and drops out of the ring", 1, x.leave(39));
         Due.is("his number is not free then", NONE, x.member(0, 0, NONE));
         Due.is("40 came", 40, x.count(1));
     }

@@ -231,6 +231,21 @@ public final class EdgesOfRingsTest {
         found(x, "the twelfth and the thirteenth");
         x.away(4);
         found(x, "one ahead is not open any more", "11 12");
+        x = Scenes.club(14);
+        for (int o = 0; o < 14; o++) {
+            x.offer(o, o, -1);
+        }
+        found(x, "all want all, twelve of them", "0 1", "2 3 4 5 6", "7 8 9 10 11");
+        x.away(0);
+        found(x, "the next twelve", "1 2", "3 4 5 6 7", "8 9 10 11 12");
+        x.away(13);
+        x.away(12);
+        found(x, "eleven", "1 2", "3 4 5 6", "7 8 9 10 11");
+        x = Scenes.club(12);
+        for (int o = 0; o < 12; o++) {
+            x.offer(o, o, 1 << (11 - o));
+        }
+        found(x, "six rings of two", "0 11", "1 10", "2 9", "3 8", "4 7", "5 6");
     }
 
     private static void mostOffers() {
