@@ -920,7 +920,7 @@ public final class CardClub {
         }
 
         private int distance(int a, int b) {
-            return entry(farRow, farRow.length, people.land[a] * LANDS + people.land[b]);
+            return entry(farRow, farRow.length, people.landOf(a) * LANDS + people.landOf(b));
         }
     }
 
@@ -1621,8 +1621,9 @@ public final class CardClub {
         private int weigh(int set) {
             int first = set & -set;
             int others = set ^ first;
+            int enough = mostWorth(Integer.bitCount(set));
             int most = best[others];
-            for (int behind = others; behind > 0; behind = (behind - 1) & others) {
+            for (int behind = others; behind > 0 && most < enough; behind = (behind - 1) & others) {
                 if (isRingSet(first | behind)) {
                     most = Math.max(most, best[others ^ behind] + worth(1 + Integer.bitCount(behind)));
                 }
@@ -1632,6 +1633,11 @@ public final class CardClub {
 
         private static int worth(int length) {
             return PER_OFFER * length - 1;
+        }
+
+        /** What so many seats come to if all are in rings, and the rings as few as can be. */
+        private static int mostWorth(int manySeats) {
+            return PER_OFFER * manySeats - (manySeats + LONGEST - 1) / LONGEST;
         }
 
         private void takeFirstRings() {
@@ -1866,21 +1872,28 @@ public final class CardClub {
             }
             best[0] = 0;
             for (int k = 0; k < STAMP_KINDS; k++) {
-                // From the greatest sum down: the lesser sums don't have this kind yet.
-                for (int sum = last; sum > 0 && many[k] > 0; sum--) {
-                    tryKind(k, sum);
-                }
+                tryKind(k, last);
             }
         }
 
-        private void tryKind(int k, int sum) {
-            long costOfOne = (1L << ALL_BITS) - (1L << shiftOf(k));
-            int rest = sum - value[k];
-            for (int n = 1; n <= many[k] && rest >= 0 && rest < SUMS; n++) {
-                if (best[rest] != IMPOSSIBLE) {
-                    best[sum] = Math.min(best[sum], best[rest] + n * costOfOne);
+        /** Tries a kind in bundles of 1, 2, 4, .. stamps and the rest: with these any number can be taken. */
+        private void tryKind(int k, int last) {
+            int left = many[k];
+            for (int bundle = 1; left > 0 && bundle <= MOST_STAMPS; bundle *= 2) {
+                int stamps = Math.min(bundle, left);
+                tryBundle(k, stamps, last);
+                left -= stamps;
+            }
+        }
+
+        private void tryBundle(int k, int stamps, int last) {
+            int worth = stamps * value[k];
+            long cost = stamps * ((1L << ALL_BITS) - (1L << shiftOf(k)));
+            // From the greatest sum down: the lesser sums don't have this bundle yet.
+            for (int sum = Math.min(last, SUMS - 1); worth > 0 && sum >= worth; sum--) {
+                if (best[sum - worth] != IMPOSSIBLE) {
+                    best[sum] = Math.min(best[sum], best[sum - worth] + cost);
                 }
-                rest -= value[k];
             }
         }
 

@@ -212,12 +212,16 @@ public final class AgainstNaiveTest {
             same("member", x.member(0, 0, family), y.member(0, 0, family));
         }
         boolean few = dice.nextBoolean();
-        int offers = few ? roll(2, 7) : roll(8, 20);
-        int kinds = few ? 3 : 8;
+        boolean wanting = !few && roll(0, 3) == 0;
+        int offers = few ? roll(2, 7) : wanting ? roll(8, 12) : roll(8, 20);
+        int kinds = few ? 3 : wanting ? 32 : 8;
         for (int o = 0; o < offers; o++) {
             int m = few || roll(0, 3) == 0 ? number(members) : o % members;
             int kind = roll(0, kinds - 1);
             int wants = few ? dice.nextInt(8) : 1 << roll(0, kinds - 1) | (roll(0, 3) == 0 ? 1 << roll(0, 7) : 0);
+            if (wanting) {
+                wants = dice.nextInt() & (offers > 9 ? dice.nextInt() : -1);
+            }
             same("offer " + m + " " + kind + " " + wants, x.offer(m, kind, wants), y.offer(m, kind, wants));
         }
         for (int again = 0; again < 3; again++) {
